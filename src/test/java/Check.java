@@ -71,6 +71,12 @@ final class Check {
         }
     }
 
+    void stopIfWrong() {
+        if (wrong != 0) {
+            System.exit(1);
+        }
+    }
+
     void end() {
         System.out.println(name + ": " + looked + " answers, " + wrong + " not as due");
         if (wrong != 0 || looked == 0) {
