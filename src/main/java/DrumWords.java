@@ -10,9 +10,12 @@ public final class DrumWords {
     private static final int NOTHING = 1, BEYOND = 2, UNLIKE = 3, NOUGHT = 4, SIZE = 5;
     private static final int ROWS = 6, ROW_MOST = 40, TEXTS = 4, TEXT_MOST = 60, KEPT = 3;
     private static final int MISSING = -1;
+    /** More beats than any STEPS can take. */
+    private static final int BEYOND_ALL = 1000000;
     private static final int WORDS_LEAST = 2, WORDS_MOST = 6, PLACES_LEAST = 6, PLACES_MOST = 9;
     private static final int DEEDS_MOST = 40, STEPS_MOST = 40, READS_MOST = 80;
-    private static final int PLACED_STEPS_MOST = 12, WATCHED_STEPS_MOST = 12, DUEL_STEPS = 8;
+    private static final int PLACED_STEPS_MOST = 12, WATCHED_STEPS_MOST = 12;
+    private static final int TURNS_MOST = 3, DUEL_STEPS = 8;
     private static final int TIMES_MOST = 6, BEATS_MOST = 999;
     private static final int CHANCE_STEPS_MOST = 3, CHANCE_READS_MOST = 6, TWELFTHS = 12;
     private static final int LOTS_MOST = 20;
@@ -180,7 +183,7 @@ public final class DrumWords {
         }
         drum.begin(reader.draft);
         for (int k = 0; k < KEPT; k++) {
-            kept[k].clear();
+            kept[k].drop();
         }
         return drum.now.words;
     }
@@ -267,7 +270,7 @@ public final class DrumWords {
         if (!isWithin(k, 0, KEPT - 1)) {
             return BAD;
         }
-        if (kept[k].now.words == 0) {
+        if (kept[k].isMissing()) {
             return refuse(NOTHING);
         }
         drum.become(kept[k]);
@@ -277,11 +280,9 @@ public final class DrumWords {
     // ---- 3 steps to come
 
     public int takes(int n) {
-        if (!isWithin(n, 0, STEPS_MOST)) {
-            return BAD;
-        }
-        if (hasNoWords()) {
-            return STATE;
+        int refused = refusedSteps(n, STEPS_MOST);
+        if (refused != 0) {
+            return refused;
         }
         followSteps(n);
         told = aside.sum;
@@ -289,11 +290,9 @@ public final class DrumWords {
     }
 
     public int idle(int n) {
-        if (!isWithin(n, 0, STEPS_MOST)) {
-            return BAD;
-        }
-        if (hasNoWords()) {
-            return STATE;
+        int refused = refusedSteps(n, STEPS_MOST);
+        if (refused != 0) {
+            return refused;
         }
         followSteps(n);
         int all = trace.beatsOf(drum.now.spots, n);
@@ -334,7 +333,7 @@ public final class DrumWords {
         followSteps(n);
         placing.begin(drum.now);
         int best = NONE;
-        int fewest = Integer.MAX_VALUE;
+        int fewest = BEYOND_ALL;
         for (int p = 0; p < drum.now.places; p++) {
             if (drum.now.mayLie(i, p)) {
                 placing.spots[i] = p;
@@ -350,11 +349,9 @@ public final class DrumWords {
     }
 
     public int best(int n) {
-        if (!isWithin(n, 0, STEPS_MOST)) {
-            return BAD;
-        }
-        if (hasNoWords()) {
-            return STATE;
+        int refused = refusedSteps(n, STEPS_MOST);
+        if (refused != 0) {
+            return refused;
         }
         followSteps(n);
         placing.begin(drum.now);
@@ -378,11 +375,9 @@ public final class DrumWords {
     }
 
     public int least(int n, int r) {
-        if (!isWithin(n, 0, PLACED_STEPS_MOST) || !isRow(r)) {
-            return BAD;
-        }
-        if (hasNoWords()) {
-            return STATE;
+        int refused = isRow(r) ? refusedSteps(n, PLACED_STEPS_MOST) : BAD;
+        if (refused != 0) {
+            return refused;
         }
         followSteps(n);
         placing.begin(drum.now);
@@ -392,11 +387,9 @@ public final class DrumWords {
     }
 
     public int clerk(int n, int r) {
-        if (!isWithin(n, 0, PLACED_STEPS_MOST) || !isRow(r)) {
-            return BAD;
-        }
-        if (hasNoWords()) {
-            return STATE;
+        int refused = isRow(r) ? refusedSteps(n, PLACED_STEPS_MOST) : BAD;
+        if (refused != 0) {
+            return refused;
         }
         followSteps(n);
         placing.begin(drum.now);
@@ -434,7 +427,8 @@ public final class DrumWords {
         int bits = 0;
         for (int k = 0; k < KINDS; k++) {
             aside.become(drum.now);
-            aside.makeKind(i, k);
+            // the WITH, NEXT of a NUMBER are 0 from the start
+            aside.kindOf[i] = k;
             trace.follow(aside, rowSizes[r]);
             if (trace.fits(drum.now.spots, rows[r], rowSizes[r])) {
                 bits |= 1 << k;
@@ -451,7 +445,7 @@ public final class DrumWords {
         placing.begin(drum.now);
         beginClocks(i);
         int best = NONE;
-        int leastPart = Integer.MAX_VALUE;
+        int leastPart = BEYOND_ALL;
         for (int s = 0; s < WATCHED_STEPS_MOST; s++) {
             turnClocks(i, s);
             int part = greatestPart();
@@ -467,25 +461,21 @@ public final class DrumWords {
     // ---- 6 by turns
 
     public int duel(int n) {
-        if (!isWithin(n, 0, 3)) {
-            return BAD;
-        }
-        if (hasNoWords()) {
-            return STATE;
+        int refused = refusedSteps(n, TURNS_MOST);
+        if (refused != 0) {
+            return refused;
         }
         followSteps(DUEL_STEPS);
         placing.begin(drum.now);
-        return Placing.play(placing, n, true, Integer.MIN_VALUE, Integer.MAX_VALUE);
+        return Placing.play(placing, n, true, -BEYOND_ALL, BEYOND_ALL);
     }
 
     // ---- 7 chances, lots
 
     public int odds(int n, int v, int p) {
-        if (!areChances(n, p) || !isWithin(v, 0, BEATS_MOST)) {
-            return BAD;
-        }
-        if (hasNoWords()) {
-            return STATE;
+        int refused = isWithin(v, 0, BEATS_MOST) ? refusedChances(n, p) : BAD;
+        if (refused != 0) {
+            return refused;
         }
         followSteps(n);
         int beats = trace.beatsOf(drum.now.spots, n);
@@ -507,11 +497,9 @@ public final class DrumWords {
     }
 
     public int mid(int n, int p) {
-        if (!areChances(n, p)) {
-            return BAD;
-        }
-        if (hasNoWords()) {
-            return STATE;
+        int refused = refusedChances(n, p);
+        if (refused != 0) {
+            return refused;
         }
         followSteps(n);
         int beats = trace.beatsOf(drum.now.spots, n);
@@ -587,7 +575,7 @@ public final class DrumWords {
             }
         }
         for (int k = 0; k < KEPT; k++) {
-            h = 31 * h + (kept[k].now.words == 0 ? MISSING : kept[k].deeds);
+            h = 31 * h + (kept[k].isMissing() ? MISSING : kept[k].deeds);
         }
         for (int r = 0; r < ROWS; r++) {
             h = 31 * h + rowSizes[r];
@@ -618,10 +606,6 @@ public final class DrumWords {
         return isWithin(t, 0, TEXTS - 1);
     }
 
-    private static boolean areChances(int n, int p) {
-        return isWithin(n, 0, CHANCE_STEPS_MOST) && isWithin(p, 0, TWELFTHS);
-    }
-
     /** Without WORDS there are no PLACES: nothing is waited then, rather than divided by 0. */
     private static int waitFor(int place, int beat, int places) {
         return places > 0 ? Math.floorMod(place - beat, places) : 0;
@@ -643,7 +627,7 @@ public final class DrumWords {
     }
 
     private boolean hasNoWords() {
-        return drum.now.words == 0;
+        return drum.isMissing();
     }
 
     private int refuse(int finding) {
@@ -668,6 +652,18 @@ public final class DrumWords {
         return i >= 0 && i <= rowSizes[r] - n;
     }
 
+    /** 0, if there are WORDS, and so many can be asked for. */
+    private int refusedSteps(int n, int most) {
+        if (!isWithin(n, 0, most)) {
+            return BAD;
+        }
+        return hasNoWords() ? STATE : 0;
+    }
+
+    private int refusedChances(int n, int p) {
+        return isWithin(p, 0, TWELFTHS) ? refusedSteps(n, CHANCE_STEPS_MOST) : BAD;
+    }
+
     /** 0, if there is such a WORD and the ROW tells at which beats STEPS were done. */
     private int refusedTimes(int i, int r) {
         if (!drum.now.has(i) || !isRow(r)) {
@@ -688,7 +684,6 @@ public final class DrumWords {
     }
 
     private void layPlaces(int r, int[] spots) {
-        Arrays.fill(rows[r], 0);
         System.arraycopy(spots, 0, rows[r], 0, drum.now.words);
         rowSizes[r] = drum.now.words;
     }
@@ -778,7 +773,7 @@ public final class DrumWords {
     private int keptDrums() {
         int there = 0;
         for (int k = 0; k < KEPT; k++) {
-            if (kept[k].now.words != 0) {
+            if (!kept[k].isMissing()) {
                 there++;
             }
         }
@@ -813,15 +808,6 @@ public final class DrumWords {
             System.arraycopy(other.with, 0, with, 0, WORDS_MOST);
             System.arraycopy(other.next, 0, next, 0, WORDS_MOST);
             System.arraycopy(other.done, 0, done, 0, WORDS_MOST);
-        }
-
-        private void clear() {
-            words = 0;
-            places = 0;
-            beat = 0;
-            sum = 0;
-            due = NONE;
-            steps = 0;
         }
 
         private boolean has(int i) {
@@ -946,14 +932,6 @@ public final class DrumWords {
             values[i] = v;
             return was;
         }
-
-        private void makeKind(int i, int kind) {
-            if (kindOf[i] == NUMBER) {
-                with[i] = 0;
-                next[i] = 0;
-            }
-            kindOf[i] = kind;
-        }
     }
 
     /** A machine with its DEEDS; they are undone by doing those ahead of them again from the start. */
@@ -965,10 +943,12 @@ public final class DrumWords {
         private final int[] first = new int[DEEDS_MOST];
         private final int[] second = new int[DEEDS_MOST];
 
-        private void clear() {
-            start.clear();
-            now.clear();
-            deeds = 0;
+        private boolean isMissing() {
+            return now.words == 0;
+        }
+
+        private void drop() {
+            now.words = 0;
         }
 
         private void begin(Machine machine) {
@@ -1026,7 +1006,7 @@ public final class DrumWords {
             signs = text;
             size = Math.min(n, text.length);
             here = 0;
-            draft.clear();
+            draft.words = 0;
             if (!readHead()) {
                 return here;
             }
@@ -1079,7 +1059,6 @@ public final class DrumWords {
             draft.values[i] = kind == NUMBER ? 10 * one + two : 0;
             draft.with[i] = kind == NUMBER ? 0 : one;
             draft.next[i] = kind == NUMBER ? 0 : two;
-            draft.done[i] = 0;
             draft.words = i + 1;
             return true;
         }
@@ -1274,7 +1253,7 @@ public final class DrumWords {
 
         private void findShortest() {
             takeOffAllButFirst();
-            shortestWait = Integer.MAX_VALUE;
+            shortestWait = BEYOND_ALL;
             layOn(this, 0, trace.beat, 0, 0);
         }
 

@@ -50,6 +50,7 @@ public final class ChancesTest {
         c.dueShare(x, "none ever misses", x.odds(1, 6, 0), 1, Check.share(1, 1));
         c.dueShare(x, "all miss", x.odds(1, 17, 12), 1, Check.share(0, 1));
         c.dueShare(x, "all miss", x.odds(1, 18, 12), 1, Check.share(1, 1));
+        c.dueShare(x, "all six miss", x.odds(3, 54, 12), 1, Check.share(1, 1));
         c.dueShare(x, "six READINGS", x.odds(3, 18, 1), 1, Check.share(1771561, 2985984));
         c.dueShare(x, "all but six misses", x.odds(3, 53, 1), 1, Check.share(2985983, 2985984));
         c.dueShare(x, "four READINGS, p 4", x.odds(2, 18, 4), 1, Check.share(16, 27));

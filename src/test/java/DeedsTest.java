@@ -216,6 +216,13 @@ public final class DeedsTest {
         c.due("on(2) again", x.on(2), 2);
         c.due("it stays kept", x.digest(), kept);
         c.due("undone to its start", x.undo(0), 2);
+        x.value(0, 9);
+        x.value(1, 9);
+        x.value(2, 9);
+        c.due("gone on from", x.on(2), 2);
+        c.due("its own DEEDS", x.undo(1), 1);
+        dueCounts(c, x, "its own STEP", 6, 7, 1, 1, 1);
+        c.dueAsked(x, "no VALUE was told", x.word(0, 2), 0);
         c.due("on(0)", x.on(0), 0);
         dueCounts(c, x, "as at first", 0, 0, 0, 0, 0);
         x.value(0, 1);

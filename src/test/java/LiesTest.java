@@ -151,6 +151,10 @@ public final class LiesTest {
         c.dueAsked(late, "no PLACE is free", late.watch(5), 1, 1);
         DrumWords chain = Check.drumOf("d9 j001 j102 j203 n300");
         c.dueAsked(chain, "it is READ last", chain.watch(3), 4, 1);
+        DrumWords slow = Check.drumOf("d9 a021 e130 n209 n300");
+        c.dueAsked(slow, "it is READ in STEP 13", slow.watch(3), 1, 6);
+        slow.step();
+        c.dueAsked(slow, "it is READ in STEP 12", slow.watch(3), 12, 1);
         c.due("watch(2)", x.watch(2), BAD);
         c.due("watch(-1)", x.watch(-1), BAD);
         c.due("watch(6)", y.watch(6), BAD);

@@ -32,6 +32,8 @@ public final class PlacingsTest {
         c.dueAsked(y, "place(1, 6)", y.place(1, 6), 4, 53);
         y.step();
         c.dueAsked(y, "from now on", y.place(1, 1), 1, 13);
+        DrumWords ahead = Check.drumOf("d6 a510 n300 n000");
+        c.dueAsked(ahead, "0 is taken", ahead.place(1, 1), 1, 10);
         DrumWords full = Check.drumOf("d6 a010 n300 n100 n200 n400 n500");
         c.dueAsked(full, "no PLACE is free", full.place(1, 1), 3, 6);
     }

@@ -131,11 +131,15 @@ public final class RowsTest {
         int least = Integer.MIN_VALUE;
         Check.lay(x, 0, least, least);
         c.dueAsked(x, "the least ones", x.mean(0), least);
+        x.row(0, 40);
+        x.lay(0, 39, 80);
+        x.lay(0, 0, 40);
+        c.dueAsked(x, "120 by 40", x.mean(0), 3);
         c.due("mean(6)", x.mean(6), DrumWords.BAD);
         c.due("mean(-1)", x.mean(-1), DrumWords.BAD);
         c.dueFinding(x, "a missing one", x.mean(1), NOTHING);
         x.row(1, 0);
         c.dueFinding(x, "one of none", x.mean(1), NOUGHT);
-        c.due("asked() stays", x.asked(), least);
+        c.due("asked() stays", x.asked(), 3);
     }
 }

@@ -82,6 +82,8 @@ public final class StepsTest {
         c.dueAsked(x, "it is already", x.when(2, 1), 0, 0);
         c.due("it is aside", x.digest(), before);
         x.step();
+        c.dueAsked(x, "39 STEPS from now on", x.when(3, 20), 39, 9 + 19 * 18);
+        c.due("41 STEPS from now on", x.when(3, 21), NONE);
         x.value(2, 40);
         c.dueAsked(x, "or more", x.when(3, 30), 3, 9 + 9 + 9);
         DrumWords y = Check.drumOf("d9 j011 n499");

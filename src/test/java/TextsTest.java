@@ -91,6 +91,8 @@ public final class TextsTest {
         fault(c, "d6n00 0n111", 5);
         fault(c, "d6n0a0n111", 4);
         fault(c, "d6n00/n111", 5);
+        fault(c, "d6n0:0n111", 4);
+        fault(c, "d6n00:n111", 5);
         fault(c, "d6n000n011", 7);
         fault(c, "d6n000 n011", 8);
         fault(c, "d6a060n111", 4);
@@ -114,6 +116,13 @@ public final class TextsTest {
         fault(c, "d6a002n100 ", 11);
         fault(c, "d6j030n100n200", 14);
         fault(c, "d6e005n100n200n300n400", 22);
+        String ahead = " ".repeat(57);
+        fault(c, ahead + "   ", 60);
+        fault(c, ahead + "  d", 60);
+        fault(c, ahead + " d6", 60);
+        fault(c, ahead + "d6n", 60);
+        fault(c, " ".repeat(56) + "d6n0", 60);
+        fault(c, " ".repeat(55) + "d6n00", 60);
     }
 
     private static void noFaults(Check c) {
@@ -121,6 +130,7 @@ public final class TextsTest {
         fault(c, "d9n800n799", NONE);
         fault(c, "   d7   a011    j110   ", NONE);
         fault(c, "d6a055j144s233t322e411n500", NONE);
+        fault(c, " ".repeat(50) + "d6n000n100", NONE);
         fault(c, "d8 a041 t152 e213 s640 n307 n712                            ", NONE);
     }
 
