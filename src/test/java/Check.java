@@ -60,7 +60,9 @@ final class Check {
     static DrumWords drumOf(String text) {
         DrumWords x = new DrumWords();
         tell(x, 0, text);
-        x.drum(0);
+        if (x.drum(0) < 0) {
+            throw new IllegalStateException("no DRUM by '" + text + "'");
+        }
         return x;
     }
 
