@@ -11,8 +11,7 @@ final class ChancesSentences {
 
     static void tryAll(Sentences s) {
         promise33ByTurns(s);
-        promise33Bad(s);
-        promise33StateNoWords(s);
+        s.refusesByHowMany(33, "duel", 3);
         promise34Chances(s);
         promise34EachReading(s);
         promise34Bad(s);
@@ -51,23 +50,6 @@ final class ChancesSentences {
         s.from(() -> Drums.withSteps(Drums.TO_A_NUMBER, 1)).gives(4, "duel", 0);
         s.gives(9, "duel", 1);
         s.from(Drums::rich).leaves("duel", 3);
-    }
-
-    private static void promise33Bad(Sentences s) {
-        s.about(33, "BAD");
-        s.from(Drums::rich).refuses(BAD, "duel", -1);
-        s.refuses(BAD, "duel", 4);
-        s.refuses(BAD, "duel", MOST);
-        s.refuses(BAD, "duel", LEAST);
-        s.from(Drums::wordless).refuses(BAD, "duel", -1);
-        s.refuses(BAD, "duel", 4);
-    }
-
-    private static void promise33StateNoWords(Sentences s) {
-        s.about(33, "STATE: no WORDS.");
-        s.from(Drums::wordless).refuses(STATE, "duel", 0);
-        s.refuses(STATE, "duel", 3);
-        s.from(DrumWords::new).refuses(STATE, "duel", 0);
     }
 
     private static void promise34Chances(Sentences s) {

@@ -361,6 +361,7 @@ final class DeedsSentences {
 
     /** Kept is a STEP, a move of 1 to 5, a change of 0 and 1; then three others are done. */
     private static void promise21ItsOwnDeeds(Sentences s) {
+        int[][] places = {{0, 3}, {0, 3}, {0, 5}, {5, 0}};
         DrumWords x = Check.drumOf(Drums.PAIR);
         x.step();
         x.move(1, 5);
@@ -368,15 +369,15 @@ final class DeedsSentences {
         x.keep(0);
         x.undo(0);
         x.value(1, 2);
-        x.swap(1, 0);
-        x.move(0, 4);
+        x.swap(0, 1);
+        x.move(1, 4);
         s.due("on(0)", x.on(0), 3);
         for (int n = 3; n >= 0; n--) {
             x.undo(n);
             s.due("its own DEEDS, the BEAT behind " + n, x.count(3), n > 0 ? 6 : 0);
             s.due("its own DEEDS, the SUM behind " + n, x.count(4), n > 0 ? 50 : 0);
-            s.due("its own DEEDS, PLACE of 0 behind " + n, Drums.ofWord(x, 0, 1), n == 3 ? 5 : 0);
-            s.due("its own DEEDS, PLACE of 1 behind " + n, Drums.ofWord(x, 1, 1), n == 3 ? 0 : n == 2 ? 5 : 3);
+            s.due("its own DEEDS, PLACE of 0 behind " + n, Drums.ofWord(x, 0, 1), places[n][0]);
+            s.due("its own DEEDS, PLACE of 1 behind " + n, Drums.ofWord(x, 1, 1), places[n][1]);
         }
     }
 

@@ -18,18 +18,17 @@ final class PlacingsSentences {
         promise27WhichTwo(s);
         promise27TheFirst(s);
         promise27NoneNoTwo(s);
-        promise27Bad(s);
-        promise27StateNoWords(s);
+        s.refusesByHowMany(27, "best", 40);
         promise28TheFewestBeats(s);
         promise28TheFirstPlacing(s);
-        promise28ARowAnew(s);
-        promise28Bad(s);
-        promise28StateNoWords(s);
         promise29AsClerksPlace(s);
         promise29NotUsed(s);
-        promise29ARowAnew(s);
-        promise29Bad(s);
-        promise29StateNoWords(s);
+        String[] names = {"least", "clerk"};
+        for (int k = 0; k < 2; k++) {
+            promises28And29ARowAnew(s, 28 + k, names[k]);
+            promises28And29Bad(s, 28 + k, names[k]);
+            promises28And29StateNoWords(s, 28 + k, names[k]);
+        }
     }
 
     private static int[] row(int... numbers) {
@@ -121,23 +120,6 @@ final class PlacingsSentences {
         s.from(Drums::rich).none("best", 0);
     }
 
-    private static void promise27Bad(Sentences s) {
-        s.about(27, "BAD");
-        s.from(Drums::rich).refuses(BAD, "best", -1);
-        s.refuses(BAD, "best", 41);
-        s.refuses(BAD, "best", MOST);
-        s.refuses(BAD, "best", LEAST);
-        s.from(Drums::wordless).refuses(BAD, "best", -1);
-        s.refuses(BAD, "best", 41);
-    }
-
-    private static void promise27StateNoWords(Sentences s) {
-        s.about(27, "STATE: no WORDS.");
-        s.from(Drums::wordless).refuses(STATE, "best", 0);
-        s.refuses(STATE, "best", 40);
-        s.from(DrumWords::new).refuses(STATE, "best", 1);
-    }
-
     private static void promise28TheFewestBeats(Sentences s) {
         s.about(28, "The fewest beats of n (0 .. 12) STEPS, if all WORDS but WORD 0 may lie anywhere"
             + " (one at a PLACE)");
@@ -161,46 +143,49 @@ final class PlacingsSentences {
         s.from("d9 n300 n800 n700 n600 n500 n400").lays(4, row(3, 0, 1, 2, 4, 5), "least", 12, 2);
         s.from("d9 n300 n800 n700").lays(0, row(3, 0, 1), "least", 0, 2);
         s.from(Drums.LOOP).lays(27, row(0, 4, 2, 5, 1, 6), "least", 6, 2);
+        // WORD 2 may lie at 4, 5, 6, or at 0, just ahead of WORD 0
+        s.from("d7 s112 n200 j300").lays(11, row(1, 2, 0), "least", 3, 2);
         // WORDS 2 and 3 are READ in the turn ahead of WORD 1, and may lie behind it all the same
         s.from("d9 e012 j800 a730 n650").lays(20, row(0, 2, 3, 4), "least", 5, 2);
     }
 
-    private static void promise28ARowAnew(Sentences s) {
-        s.about(28, "come to a ROW (anew)");
-        s.from(Drums::stopped).lays(0, row(0, 1), "least", 1, 0);
-        s.lays(0, row(0, 1), "least", 1, 1);
-        s.lays(0, row(0, 1), "least", 1, 2);
-        s.lays(0, row(0, 1), "least", 1, 5);
+    private static void promises28And29ARowAnew(Sentences s, int promise, String name) {
+        s.about(promise, (promise == 28 ? "" : "PLACES of all WORDS ") + "come to a ROW (anew)");
+        s.from(Drums::stopped).lays(0, row(0, 1), name, 1, 0);
+        s.lays(0, row(0, 1), name, 1, 1);
+        s.lays(0, row(0, 1), name, 1, 2);
+        s.lays(0, row(0, 1), name, 1, 5);
         DrumWords x = Drums.rich();
         DrumWords same = Drums.rich();
-        x.least(12, 5);
+        int beats = promise == 28 ? x.least(12, 5) : x.clerk(12, 5);
+        s.due(name + "(12, 5) is not refused", beats > 0 ? 1 : 0, 1);
         s.due("a ROW more", x.count(8), 5);
         s.due("asked() stays", x.asked(), same.asked());
         x.tear(5);
-        s.dueSame(x, same, "least(12, 5), but for the ROW,", true);
+        s.dueSame(x, same, name + "(12, 5), but for the ROW,", true);
     }
 
-    private static void promise28Bad(Sentences s) {
-        s.about(28, "BAD");
+    private static void promises28And29Bad(Sentences s, int promise, String name) {
+        s.about(promise, "BAD");
         s.from(Drums::rich);
         for (int n : new int[] {-1, 13, MOST, LEAST}) {
-            s.refuses(BAD, "least", n, 0);
+            s.refuses(BAD, name, n, 0);
         }
         for (int r : new int[] {-1, 6, MOST, LEAST}) {
-            s.refuses(BAD, "least", 0, r);
+            s.refuses(BAD, name, 0, r);
         }
-        s.refuses(BAD, "least", 13, 6);
-        s.from(Drums::wordless).refuses(BAD, "least", 13, 0);
-        s.refuses(BAD, "least", -1, 0);
-        s.refuses(BAD, "least", 0, 6);
-        s.refuses(BAD, "least", 0, -1);
+        s.refuses(BAD, name, 13, 6);
+        s.from(Drums::wordless).refuses(BAD, name, 13, 0);
+        s.refuses(BAD, name, -1, 0);
+        s.refuses(BAD, name, 0, 6);
+        s.refuses(BAD, name, 0, -1);
     }
 
-    private static void promise28StateNoWords(Sentences s) {
-        s.about(28, "STATE: no WORDS.");
-        s.from(Drums::wordless).refuses(STATE, "least", 0, 0);
-        s.refuses(STATE, "least", 12, 5);
-        s.from(DrumWords::new).refuses(STATE, "least", 0, 0);
+    private static void promises28And29StateNoWords(Sentences s, int promise, String name) {
+        s.about(promise, "STATE: no WORDS.");
+        s.from(Drums::wordless).refuses(STATE, name, 0, 0);
+        s.refuses(STATE, name, 12, 5);
+        s.from(DrumWords::new).refuses(STATE, name, 0, 0);
     }
 
     private static void promise29AsClerksPlace(Sentences s) {
@@ -230,43 +215,5 @@ final class PlacingsSentences {
         // WITH of a JUMP, and of a TEST whose NEXT is due, is not READ
         s.from("d9 j012 n800 n700").lays(2, row(0, 2, 1), "clerk", 12, 2);
         s.from("d9 e012 n800 n700").lays(3, row(0, 1, 2), "clerk", 12, 2);
-    }
-
-    private static void promise29ARowAnew(Sentences s) {
-        s.about(29, "PLACES of all WORDS come to a ROW (anew)");
-        s.from(Drums::stopped).lays(0, row(0, 1), "clerk", 1, 0);
-        s.lays(0, row(0, 1), "clerk", 1, 1);
-        s.lays(0, row(0, 1), "clerk", 1, 2);
-        s.lays(0, row(0, 1), "clerk", 1, 5);
-        DrumWords x = Drums.rich();
-        DrumWords same = Drums.rich();
-        x.clerk(12, 5);
-        s.due("a ROW more", x.count(8), 5);
-        s.due("asked() stays", x.asked(), same.asked());
-        x.tear(5);
-        s.dueSame(x, same, "clerk(12, 5), but for the ROW,", true);
-    }
-
-    private static void promise29Bad(Sentences s) {
-        s.about(29, "BAD");
-        s.from(Drums::rich);
-        for (int n : new int[] {-1, 13, MOST, LEAST}) {
-            s.refuses(BAD, "clerk", n, 0);
-        }
-        for (int r : new int[] {-1, 6, MOST, LEAST}) {
-            s.refuses(BAD, "clerk", 0, r);
-        }
-        s.refuses(BAD, "clerk", 13, 6);
-        s.from(Drums::wordless).refuses(BAD, "clerk", 13, 0);
-        s.refuses(BAD, "clerk", -1, 0);
-        s.refuses(BAD, "clerk", 0, 6);
-        s.refuses(BAD, "clerk", 0, -1);
-    }
-
-    private static void promise29StateNoWords(Sentences s) {
-        s.about(29, "STATE: no WORDS.");
-        s.from(Drums::wordless).refuses(STATE, "clerk", 0, 0);
-        s.refuses(STATE, "clerk", 12, 5);
-        s.from(DrumWords::new).refuses(STATE, "clerk", 0, 0);
     }
 }

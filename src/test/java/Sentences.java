@@ -126,6 +126,20 @@ final class Sentences {
         dueSame(x, same, told(name, numbers), true);
     }
 
+    /** A call with how many (0 to most) alone: BAD, ahead of it STATE without WORDS. */
+    void refusesByHowMany(int promise, String name, int most) {
+        about(promise, "BAD");
+        for (int n : new int[] {-1, most + 1, MOST, LEAST}) {
+            from(Drums::rich).refuses(BAD, name, n);
+            from(Drums::wordless).refuses(BAD, name, n);
+        }
+        about(promise, "STATE: no WORDS.");
+        for (int n : new int[] {0, 1, most}) {
+            from(Drums::wordless).refuses(STATE, name, n);
+            from(DrumWords::new).refuses(STATE, name, n);
+        }
+    }
+
     /** Two objects are alike, their DEEDS one by one and kept DRUMS, too; both are used up by it. */
     void dueSame(DrumWords x, DrumWords same, String what, boolean toldToo) {
         if (toldToo) {

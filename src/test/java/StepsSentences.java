@@ -12,12 +12,10 @@ final class StepsSentences {
 
     static void tryAll(Sentences s) {
         promise22HowManyBeats(s);
-        promise22Bad(s);
-        promise22StateNoWords(s);
+        s.refusesByHowMany(22, "takes", 40);
         promise23AreWaited(s);
         promise23TheShare(s);
-        promise23Bad(s);
-        promise23StateNoWords(s);
+        s.refusesByHowMany(23, "idle", 40);
         promise24BehindHowMany(s);
         promise24NoneNotByThen(s);
         promise24StateNoWords(s);
@@ -49,23 +47,6 @@ final class StepsSentences {
         s.due("as often as asked", x.takes(1), 5);
     }
 
-    private static void promise22Bad(Sentences s) {
-        s.about(22, "BAD");
-        s.from(Drums::rich).refuses(BAD, "takes", -1);
-        s.refuses(BAD, "takes", 41);
-        s.refuses(BAD, "takes", MOST);
-        s.refuses(BAD, "takes", LEAST);
-        s.from(Drums::wordless).refuses(BAD, "takes", -1);
-        s.refuses(BAD, "takes", 41);
-    }
-
-    private static void promise22StateNoWords(Sentences s) {
-        s.about(22, "STATE: no WORDS.");
-        s.from(Drums::wordless).refuses(STATE, "takes", 0);
-        s.refuses(STATE, "takes", 40);
-        s.from(DrumWords::new).refuses(STATE, "takes", 1);
-    }
-
     private static void promise23AreWaited(Sentences s) {
         s.about(23, "How many of these beats are waited (nothing being READ, no WORK)");
         s.from(Drums.PAIR).gives(0, "idle", 0);
@@ -93,23 +74,6 @@ final class StepsSentences {
         s.shares(3, 3, 5, "idle", 40);
         s.from("d9 n800 n799").shares(8, 8, 9, "idle", 1);
         s.from(Drums::stopped).shares(0, 0, 1, "idle", 40);
-    }
-
-    private static void promise23Bad(Sentences s) {
-        s.about(23, "BAD");
-        s.from(Drums::rich).refuses(BAD, "idle", -1);
-        s.refuses(BAD, "idle", 41);
-        s.refuses(BAD, "idle", MOST);
-        s.refuses(BAD, "idle", LEAST);
-        s.from(Drums::wordless).refuses(BAD, "idle", -1);
-        s.refuses(BAD, "idle", 41);
-    }
-
-    private static void promise23StateNoWords(Sentences s) {
-        s.about(23, "STATE: no WORDS.");
-        s.from(Drums::wordless).refuses(STATE, "idle", 0);
-        s.refuses(STATE, "idle", 40);
-        s.from(DrumWords::new).refuses(STATE, "idle", 1);
     }
 
     private static void promise24BehindHowMany(Sentences s) {
