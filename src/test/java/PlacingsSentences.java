@@ -129,6 +129,8 @@ final class PlacingsSentences {
         s.lays(4 + 11 * 6, row(0, 1), "least", 12, 2);
         s.from("d9 n800 n000").lays(9, row(8, 0), "least", 12, 2);
         s.from(TWENTY).lays(8, row(0, 1, 2), "least", 2, 2);
+        // twice round: 4 beats, then WORD 0 comes at 8, 16; at 1 WORD 1 would cost a turn each time
+        s.from("d8 j002 e320 s510").lays(17, row(0, 2, 1), "least", 5, 2);
         s.from("d6 n501 n000 n100 n200 n300 n400").lays(6, row(5, 0, 1, 2, 3, 4), "least", 12, 2);
         s.from("d6 j505 n400 n300 n200 n100 n000").lays(7, row(5, 1, 2, 3, 4, 0), "least", 12, 2);
         s.from(() -> Drums.withSteps(Drums.TO_A_NUMBER, 1)).lays(1, row(0, 1), "least", 12, 2);
@@ -212,6 +214,10 @@ final class PlacingsSentences {
         s.lays(0, row(3, 0, 1), "clerk", 0, 2);
         s.from("d9 n300 n800 n700 n600 n500 n400").lays(4, row(3, 0, 1, 2, 4, 5), "clerk", 12, 2);
         s.from("d9 a051 n100 n200 n300 n400 n599").lays(4, row(0, 2, 3, 4, 5, 1), "clerk", 1, 2);
+        DrumWords x = Check.drumOf("d9 a321 n000 n100");
+        x.clerk(2, 0);
+        s.due("fewer STEPS than were gone through ahead", x.clerk(1, 0), 7);
+        s.holds(x, "PLACES", 0, 3, 0, 4);
         // WITH of a JUMP, and of a TEST whose NEXT is due, is not READ
         s.from("d9 j012 n800 n700").lays(2, row(0, 2, 1), "clerk", 12, 2);
         s.from("d9 e012 n800 n700").lays(3, row(0, 1, 2), "clerk", 12, 2);
