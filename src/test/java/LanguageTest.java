@@ -11,74 +11,116 @@ import java.util.regex.Pattern;
 
 /** The public face, and the rules of LANGUAGE.md that can be seen from the source. */
 public final class LanguageTest {
-    private static final String FACE = "row2 lay3 at2 tear1 copy5 mean1 text2 put3 fault1 drum1 word2"
-        + " mark2 waits2 step0 move2 swap2 value2 undo1 keep1 on1 takes1 idle1 stops0 when2 place2"
-        + " best1 least2 clerk2 lies2 kinds2 watch1 duel1 odds3 mid2 lots2 asked0 upper0 lower0"
-        + " count1 finding0 findings1 digest0";
     private static final String WORDS_LEFT_OUT = "throw throws try catch finally synchronized assert"
         + " import\\s+static package protected Random System\\.(?!arraycopy) Thread Exception Error"
         + " Object Map Set Iterator stream lambda volatile transient native";
 
     public static void main(String[] args) throws Exception {
         Check c = new Check("LanguageTest");
-        methods(c);
-        fields(c);
+        String face = face(Files.readString(Path.of(args[1])));
+        Set<String> names = new TreeSet<>();
+        methods(c, face, names);
+        constants(c, face);
+        inside(c, names);
         String source = withoutComments(Files.readString(Path.of(args[0])));
         leftOut(c, source);
         imports(c, source);
         sizes(c, source);
+        objects(c, source);
         c.end();
     }
 
-    private static void methods(Check c) {
-        Set<String> due = new TreeSet<>(Arrays.asList(FACE.split(" ")));
-        Set<String> names = new TreeSet<>();
-        for (String method : due) {
-            names.add(method.replaceAll("[0-9]", ""));
+    /** What the document's public face says, its blanks made one each. */
+    private static String face(String document) {
+        int start = document.indexOf("public final class DrumWords {");
+        return document.substring(start, document.indexOf("```", start)).replaceAll("\\s+", " ");
+    }
+
+    private static void methods(Check c, String face, Set<String> names) {
+        Set<String> due = new TreeSet<>();
+        Matcher m = Pattern.compile("public (int|long) (\\w+)\\(([^)]*)\\);").matcher(face);
+        while (m.find()) {
+            names.add(m.group(2));
+            String types = m.group(3).replaceAll("(\\w+) \\w+", "$1").replace(", ", ",");
+            due.add(m.group(1) + " " + m.group(2) + "(" + types + ")");
         }
         Set<String> there = new TreeSet<>();
         for (Method method : DrumWords.class.getDeclaredMethods()) {
             int how = method.getModifiers();
             if (Modifier.isPublic(how)) {
-                there.add(method.getName() + method.getParameterCount());
-                boolean isLong = Set.of("upper", "lower", "digest").contains(method.getName());
-                same(c, method.getName(), method.getReturnType(), isLong ? long.class : int.class);
+                there.add(method.getReturnType() + " " + method.getName() + types(method));
+                same(c, method.getName() + " is of an object", Modifier.isStatic(how), false);
             } else {
                 same(c, method.getName() + " is private", Modifier.isPrivate(how), true);
                 same(c, method.getName() + " has its own name", names.contains(method.getName()), false);
             }
         }
         same(c, "public methods", there, due);
+        same(c, "as many as promises", due.size(), Doc.PROMISES - 1);
         same(c, "constructors", DrumWords.class.getDeclaredConstructors().length, 1);
+        same(c, "a constructor without parameters", DrumWords.class.getConstructors()[0].getParameterCount(), 0);
         same(c, "final", Modifier.isFinal(DrumWords.class.getModifiers()), true);
-        for (Class<?> inside : DrumWords.class.getDeclaredClasses()) {
-            same(c, inside.getName() + " is static", Modifier.isStatic(inside.getModifiers()), true);
-            for (Method method : inside.getDeclaredMethods()) {
-                same(c, inside.getName() + "." + method.getName() + " has its own name",
+    }
+
+    private static String types(Method method) {
+        String all = Arrays.toString(method.getParameterTypes()).replace(", ", ",");
+        return "(" + all.substring(1, all.length() - 1) + ")";
+    }
+
+    private static void constants(Check c, String face) throws IllegalAccessException {
+        Set<String> due = new TreeSet<>();
+        Matcher m = Pattern.compile("([A-Z]+ = -?\\d+)[,;]").matcher(face);
+        while (m.find()) {
+            due.add(m.group(1));
+        }
+        Set<String> there = new TreeSet<>();
+        for (Field field : DrumWords.class.getDeclaredFields()) {
+            int how = field.getModifiers();
+            if (Modifier.isPublic(how)) {
+                there.add(field.getName() + " = " + field.getInt(null));
+                same(c, field.getName() + " is an int", field.getType(), int.class);
+            } else {
+                same(c, field.getName() + " is private", Modifier.isPrivate(how), true);
+            }
+        }
+        same(c, "public fields", there, due);
+    }
+
+    private static void inside(Check c, Set<String> names) {
+        Class<?>[] inside = DrumWords.class.getDeclaredClasses();
+        same(c, "at most twelve classes", inside.length + 1 <= 12, true);
+        fields(c, DrumWords.class);
+        for (Class<?> one : inside) {
+            same(c, one.getName() + " is static", Modifier.isStatic(one.getModifiers()), true);
+            fields(c, one);
+            for (Method method : one.getDeclaredMethods()) {
+                same(c, one.getName() + "." + method.getName() + " has its own name",
                     names.contains(method.getName()), false);
             }
         }
     }
 
-    private static void fields(Check c) {
-        Set<String> due = new TreeSet<>(Set.of("BAD", "FULL", "FINDING", "STATE", "SPENT", "NONE"));
-        Set<String> there = new TreeSet<>();
+    private static void fields(Check c, Class<?> one) {
         int own = 0;
-        for (Field field : DrumWords.class.getDeclaredFields()) {
-            int how = field.getModifiers();
-            if (Modifier.isPublic(how)) {
-                there.add(field.getName());
-            } else {
-                same(c, field.getName() + " is private", Modifier.isPrivate(how), true);
-            }
-            if (Modifier.isStatic(how)) {
-                same(c, field.getName() + " is final", Modifier.isFinal(how), true);
+        for (Field field : one.getDeclaredFields()) {
+            if (Modifier.isStatic(field.getModifiers())) {
+                same(c, field.getName() + " is final", Modifier.isFinal(field.getModifiers()), true);
             } else {
                 own++;
             }
         }
-        same(c, "public fields", there, due);
-        same(c, "at most twenty fields", own <= 20, true);
+        same(c, "at most twenty fields in " + one.getName(), own <= 20, true);
+    }
+
+    /** Objects are made with fields and in the constructor alone, so that no call makes any. */
+    private static void objects(Check c, String source) {
+        Matcher m = Pattern.compile("(?m)^(.*)\\bnew\\b").matcher(source);
+        int end = source.indexOf("public int row(");
+        while (m.find()) {
+            boolean isField = m.group(1).matches(" +private (final )?[\\w\\[\\]]+ \\w+ = ");
+            same(c, "no call makes an object: " + m.group(1), isField || m.start() < end, true);
+        }
+        same(c, "no copies are made", Pattern.compile("\\b(clone|copyOf\\w*)\\(").matcher(source).find(), false);
     }
 
     private static void leftOut(Check c, String source) {
